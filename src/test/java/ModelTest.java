@@ -1,0 +1,255 @@
+import java.util.ArrayList;
+import java.util.List;
+
+/** Long runs of calls, right and wrong ones, of which the program and the model must answer the same. */
+public final class ModelTest {
+    private static final int RUNS = 1500;
+    private static final int CALLS = 512;
+
+    private long seed;
+    private int style;
+    private Model model;
+    private QueryLoft loft;
+    private final List<String> told = new ArrayList<>();
+
+    private ModelTest(long seed) {
+        this.seed = seed * 0x9E3779B97F4A7C15L + 12345;
+        style = below(6);
+        model = new Model();
+        loft = new QueryLoft();
+    }
+
+    /** A number of a row of numbers that is the same each time. */
+    private int below(int bound) {
+        seed = seed * 6364136223846793005L + 1442695040888963407L;
+        return (int) ((seed >>> 33) % bound);
+    }
+
+    private boolean rarely() {
+        return below(40) == 0;
+    }
+
+    /** A number from 0 that there is, but rarely one that there is not. */
+    private int number(int count) {
+        if (rarely()) {
+            int[] odd = {-1, count, count + 1, Integer.MIN_VALUE, Integer.MAX_VALUE};
+            return odd[below(odd.length)];
+        }
+        return count == 0 ? 0 : below(count);
+    }
+
+    private int value() {
+        if (rarely()) {
+            int[] odd = {-1001, -999, -100, -99, 99, 100, Integer.MIN_VALUE, Integer.MAX_VALUE};
+            return odd[below(odd.length)];
+        }
+        if (below(6) == 0) {
+            return QueryLoft.UNKNOWN;
+        }
+        return below(style % 2 == 0 ? 3 : 6) - 1;
+    }
+
+    /** A node, of late ones rather than of early ones. */
+    private int someNode() {
+        int count = model.nodeCount();
+        return below(2) == 0 && count > 0 ? Math.max(0, count - 1 - below(4)) : number(count);
+    }
+
+    private int columnOf(int node) {
+        return number(model.columns(node));
+    }
+
+    private int set() {
+        int count = model.tableCount();
+        return rarely() ? below(40) - 3 : count == 0 ? 1 : 1 + below((1 << count) - 1);
+    }
+
+    private int[] arguments(int call) {
+        int node = someNode();
+        int other = someNode();
+        switch (call) {
+            case 0:
+                return new int[] {rarely() ? below(9) - 3 : 1 + below(3)};
+            case 1:
+                return new int[] {number(model.tableCount()), value(), below(3) == 0 ? 0 : value(),
+                    below(2) == 0 ? 0 : value()};
+            case 2:
+                int table = number(model.tableCount());
+                return new int[] {table, number(model.rowCount(table))};
+            case 3:
+                return new int[] {number(model.tableCount())};
+            case 4:
+                int comparison = rarely() ? below(12) - 3 : below(6);
+                int with = comparison >= 4 && below(8) > 0 ? 0 : below(5) == 0 ? value() : below(3) - 1;
+                return new int[] {node, columnOf(node), comparison, with};
+            case 5:
+                return new int[] {node, other, columnOf(node), columnOf(other), rarely() ? below(9) - 2 : below(5)};
+            case 6:
+                int kind = rarely() ? below(9) - 2 : below(5);
+                return new int[] {node, columnOf(node), kind, kind == 0 && !rarely() ? 0 : columnOf(node)};
+            case 7:
+                return new int[] {node, other, rarely() ? below(9) - 2 : style < 3 && below(2) == 0 ? 0 : below(4)};
+            case 8:
+                return new int[] {node};
+            case 9:
+                return new int[] {node, below(10) == 0 ? below(300) : number(8), columnOf(node)};
+            case 10:
+                return new int[] {node, other};
+            case 11:
+                return new int[] {node};
+            case 12:
+                int[] budgets = {0, 1, 10, 50, 300, 2000, 99999, 100000, 100000, 100000, 100001, -5};
+                return new int[] {budgets[below(budgets.length)]};
+            case 13:
+                return new int[] {node};
+            case 14:
+                return new int[] {node, rarely() ? below(9) - 2 : below(4)};
+            case 15:
+            case 19:
+                int first = number(model.tableCount());
+                int second = number(model.tableCount());
+                return call == 15 ? new int[] {first, number(2), second, number(2)}
+                    : new int[] {first, second, number(2), number(2)};
+            case 16:
+            case 17:
+            case 18:
+                return new int[] {set()};
+            case 20:
+                return new int[] {number(4)};
+            case 21:
+                return new int[] {number(3), number(5), number(5)};
+            default:
+                return new int[] {number(model.tableCount())};
+        }
+    }
+
+    private static final String[] NAMES = {"table", "add", "take", "scan", "filter", "join", "group", "bag", "rows",
+        "cell", "same", "steps", "budget", "rewrite", "node", "link", "estimate", "cost", "split", "view",
+        "different", "often", "ways"};
+
+    /** How often each call comes, of 100 or so. */
+    private static final int[] WEIGHTS = {2, 14, 5, 3, 9, 6, 3, 6, 6, 10, 5, 4, 2, 6, 4, 1, 2, 2, 2, 1, 3, 6, 3};
+
+    private int someCall() {
+        int all = 0;
+        for (int weight : WEIGHTS) {
+            all += weight;
+        }
+        int at = below(all);
+        int call = 0;
+        while (at >= WEIGHTS[call]) {
+            at -= WEIGHTS[call];
+            call++;
+        }
+        return call;
+    }
+
+    private long askModel(int call, int[] a) {
+        switch (call) {
+            case 0: return model.table(a[0]);
+            case 1: return model.add(a[0], a[1], a[2], a[3]);
+            case 2: return model.take(a[0], a[1]);
+            case 3: return model.scan(a[0]);
+            case 4: return model.filter(a[0], a[1], a[2], a[3]);
+            case 5: return model.join(a[0], a[1], a[2], a[3], a[4]);
+            case 6: return model.group(a[0], a[1], a[2], a[3]);
+            case 7: return model.bag(a[0], a[1], a[2]);
+            case 8: return model.rows(a[0]);
+            case 9: return model.cell(a[0], a[1], a[2]);
+            case 10: return model.same(a[0], a[1]) ? 1 : 0;
+            case 11: return model.steps(a[0]);
+            case 12: return model.budget(a[0]);
+            case 13: return model.rewrite(a[0]);
+            case 14: return model.node(a[0], a[1]);
+            case 15: return model.link(a[0], a[1], a[2], a[3]);
+            case 16: return model.estimate(a[0]);
+            case 17: return model.cost(a[0]);
+            case 18: return model.split(a[0]);
+            case 19: return model.view(a[0], a[1], a[2], a[3]);
+            case 20: return model.different(a[0]);
+            case 21: return model.often(a[0], a[1], a[2]);
+            default: return model.ways(a[0]);
+        }
+    }
+
+    private long askLoft(int call, int[] a) {
+        switch (call) {
+            case 0: return loft.table(a[0]);
+            case 1: return loft.add(a[0], a[1], a[2], a[3]);
+            case 2: return loft.take(a[0], a[1]);
+            case 3: return loft.scan(a[0]);
+            case 4: return loft.filter(a[0], a[1], a[2], a[3]);
+            case 5: return loft.join(a[0], a[1], a[2], a[3], a[4]);
+            case 6: return loft.group(a[0], a[1], a[2], a[3]);
+            case 7: return loft.bag(a[0], a[1], a[2]);
+            case 8: return loft.rows(a[0]);
+            case 9: return loft.cell(a[0], a[1], a[2]);
+            case 10: return loft.same(a[0], a[1]) ? 1 : 0;
+            case 11: return loft.steps(a[0]);
+            case 12: return loft.budget(a[0]);
+            case 13: return loft.rewrite(a[0]);
+            case 14: return loft.node(a[0], a[1]);
+            case 15: return loft.link(a[0], a[1], a[2], a[3]);
+            case 16: return loft.estimate(a[0]);
+            case 17: return loft.cost(a[0]);
+            case 18: return loft.split(a[0]);
+            case 19: return loft.view(a[0], a[1], a[2], a[3]);
+            case 20: return loft.different(a[0]);
+            case 21: return loft.often(a[0], a[1], a[2]);
+            default: return loft.ways(a[0]);
+        }
+    }
+
+    private String answer(boolean ofModel, int call, int[] arguments) {
+        try {
+            return "" + (ofModel ? askModel(call, arguments) : askLoft(call, arguments));
+        } catch (RuntimeException thrown) {
+            return thrown.getClass().getName();
+        }
+    }
+
+    /** Makes a run; false if one of its answers is wrong. */
+    private boolean run(int run, int[] answered, int[] thrown) {
+        // A node is never changed, so that the nodes of a run are soon all made: some runs are short for that.
+        int calls = style == 5 ? 60 : CALLS;
+        for (int i = 0; i < calls; i++) {
+            int call = i < 12 ? i % 3 == 0 ? 0 : 1 : someCall();
+            int[] arguments = arguments(call);
+            if (call == 13 && !model.canRewrite(arguments[0])) {
+                call = 14;
+                arguments = new int[] {arguments[0], 0};
+            }
+            String want = answer(true, call, arguments);
+            String got = answer(false, call, arguments);
+            told.add(NAMES[call] + java.util.Arrays.toString(arguments) + " = " + got);
+            (want.startsWith("java") ? thrown : answered)[call]++;
+            if (!want.equals(got)) {
+                System.out.println("run " + run + ", due is " + want);
+                for (String line : told) {
+                    System.out.println("  " + line);
+                }
+                return false;
+            }
+        }
+        return true;
+    }
+
+    public static void main(String[] args) {
+        int runs = args.length > 0 ? Integer.parseInt(args[0]) : RUNS;
+        int[] answered = new int[NAMES.length];
+        int[] thrown = new int[NAMES.length];
+        for (int run = 0; run < runs; run++) {
+            if (!new ModelTest(run).run(run, answered, thrown)) {
+                System.exit(1);
+            }
+        }
+        for (int call = 0; call < NAMES.length; call++) {
+            System.out.println("ModelTest: " + NAMES[call] + " answered " + answered[call] + ", threw " + thrown[call]);
+            if (answered[call] == 0 || thrown[call] == 0) {
+                System.out.println("ModelTest: not each kind of answer was seen");
+                System.exit(1);
+            }
+        }
+        System.out.println("ModelTest: " + runs + " runs, all as in the model");
+    }
+}
