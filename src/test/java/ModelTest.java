@@ -1,10 +1,15 @@
 import java.util.ArrayList;
+import java.util.Arrays;
 import java.util.List;
 
 /** Long runs of calls, right and wrong ones, of which the program and the model must answer the same. */
 public final class ModelTest {
-    private static final int RUNS = 1500;
+    private static final int RUNS = 4000;
     private static final int CALLS = 512;
+
+    private static final int[] ANSWERED = new int[23];
+    private static final int[] THROWN = new int[23];
+    private static final int[] REWRITTEN = new int[1];
 
     private long seed;
     private int style;
@@ -208,48 +213,95 @@ public final class ModelTest {
         }
     }
 
-    /** Makes a run; false if one of its answers is wrong. */
-    private boolean run(int run, int[] answered, int[] thrown) {
-        // A node is never changed, so that the nodes of a run are soon all made: some runs are short for that.
-        int calls = style == 5 ? 60 : CALLS;
-        for (int i = 0; i < calls; i++) {
+    /** Makes a call of both; false if the program's answer is wrong. */
+    private boolean isRight(int call, int... arguments) {
+        String want = answer(true, call, arguments);
+        String got = answer(false, call, arguments);
+        told.add(NAMES[call] + Arrays.toString(arguments) + " = " + got);
+        (want.startsWith("java") ? THROWN : ANSWERED)[call]++;
+        if (!want.equals(got)) {
+            told.add("but due is " + want);
+        }
+        return want.equals(got);
+    }
+
+    /** A run of all calls. */
+    private boolean runCalls() {
+        boolean right = true;
+        for (int i = 0; i < CALLS && right; i++) {
             int call = i < 12 ? i % 3 == 0 ? 0 : 1 : someCall();
             int[] arguments = arguments(call);
-            if (call == 13 && !model.canRewrite(arguments[0])) {
-                call = 14;
-                arguments = new int[] {arguments[0], 0};
-            }
-            String want = answer(true, call, arguments);
-            String got = answer(false, call, arguments);
-            told.add(NAMES[call] + java.util.Arrays.toString(arguments) + " = " + got);
-            (want.startsWith("java") ? thrown : answered)[call]++;
-            if (!want.equals(got)) {
-                System.out.println("run " + run + ", due is " + want);
-                for (String line : told) {
-                    System.out.println("  " + line);
-                }
-                return false;
+            boolean isTooBig = call == 13 && !model.canRewrite(arguments[0]);
+            right = isTooBig ? isRight(14, arguments[0], 0) : isRight(call, arguments);
+        }
+        return right;
+    }
+
+    /** A run that makes some nodes, rewrites the last one and asks for all that all nodes give. */
+    private boolean runRewriting() {
+        boolean right = isRight(0, 1 + below(2)) && isRight(0, 1 + below(2)) && isRight(3, 0) && isRight(3, 1);
+        for (int row = 0; row < 6 && right; row++) {
+            right = isRight(1, arguments(1)) && isRight(1, arguments(1));
+        }
+        int nodes = 3 + below(10);
+        for (int i = 0; i < 20 && model.nodeCount() < nodes && right; i++) {
+            int node = Math.max(0, model.nodeCount() - 1 - below(3));
+            int kind = below(10);
+            if (kind < 5) {
+                right = isRight(4, node, columnOf(node), below(4), below(3) - 1);
+            } else if (kind < 8) {
+                int other = below(model.nodeCount());
+                right = isRight(5, node, other, columnOf(node), columnOf(other), below(3) == 0 ? below(5) : below(2));
+            } else {
+                right = isRight(7, node, below(model.nodeCount()), 0);
             }
         }
-        return true;
+        int before = model.nodeCount();
+        right = right && (!model.canRewrite(before - 1) || isRight(13, before - 1));
+        REWRITTEN[0] += model.nodeCount() > before ? 1 : 0;
+        for (int node = 0; node < model.nodeCount() && right; node++) {
+            right = isRight(14, node, 0) && isRight(14, node, 1) && isRight(14, node, 2) && isRight(14, node, 3)
+                && isRight(11, node) && isRight(8, node) && areCellsRight(node);
+        }
+        return right;
+    }
+
+    private boolean areCellsRight(int node) {
+        String rows = answer(true, 8, new int[] {node});
+        boolean right = true;
+        for (int row = 0; !rows.startsWith("java") && row < Integer.parseInt(rows) && right; row++) {
+            for (int column = 0; column < model.columns(node) && right; column++) {
+                right = isRight(9, node, row, column);
+            }
+        }
+        return right;
+    }
+
+    private static void runAll(int runs) {
+        for (int run = 0; run < runs; run++) {
+            ModelTest test = new ModelTest(run);
+            if (run % 4 == 0 ? !test.runCalls() : !test.runRewriting()) {
+                System.out.println("ModelTest: run " + run);
+                for (String line : test.told) {
+                    System.out.println("  " + line);
+                }
+                System.exit(1);
+            }
+        }
     }
 
     public static void main(String[] args) {
         int runs = args.length > 0 ? Integer.parseInt(args[0]) : RUNS;
-        int[] answered = new int[NAMES.length];
-        int[] thrown = new int[NAMES.length];
-        for (int run = 0; run < runs; run++) {
-            if (!new ModelTest(run).run(run, answered, thrown)) {
-                System.exit(1);
-            }
-        }
+        runAll(runs);
+        boolean seenAll = REWRITTEN[0] > runs / 10;
         for (int call = 0; call < NAMES.length; call++) {
-            System.out.println("ModelTest: " + NAMES[call] + " answered " + answered[call] + ", threw " + thrown[call]);
-            if (answered[call] == 0 || thrown[call] == 0) {
-                System.out.println("ModelTest: not each kind of answer was seen");
-                System.exit(1);
-            }
+            System.out.println("ModelTest: " + NAMES[call] + " answered " + ANSWERED[call] + ", threw " + THROWN[call]);
+            seenAll = seenAll && ANSWERED[call] > 0 && THROWN[call] > 0;
         }
-        System.out.println("ModelTest: " + runs + " runs, all as in the model");
+        System.out.println("ModelTest: " + runs + " runs, all as in the model, " + REWRITTEN[0] + " rewritten");
+        if (!seenAll) {
+            System.out.println("ModelTest: not each kind of answer was seen");
+            System.exit(1);
+        }
     }
 }

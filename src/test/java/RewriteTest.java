@@ -55,6 +55,24 @@ public final class RewriteTest {
         due.refuses("no node more", Due.BOUNDS, () -> left.node(4, 0));
     }
 
+    /** The least and the greatest filter of the columns where a join's nodes lie side by side. */
+    private static void testEdges(Due due) {
+        QueryLoft loft = twoTables();
+        int join = loft.join(0, 1, 0, 0, 0);
+        int least = loft.filter(join, 2, 0, -99);
+        becomes(due, "the least filter of the second node", "J(t0,F4(t1))", loft, least);
+        due.is("as it is there", 4, () -> loft.filter(1, 0, 0, -99));
+        int greatest = loft.filter(join, 1, 3, 99);
+        becomes(due, "the greatest filter of the first node", "J(F7(t0),t1)", loft, greatest);
+        due.is("as it was", 7, () -> loft.filter(0, 1, 3, 99));
+        int known = loft.filter(join, 1, 5, 0);
+        becomes(due, "a known one of the first node", "J(F10(t0),t1)", loft, known);
+        due.is("known, as it was", 10, () -> loft.filter(0, 1, 5, 0));
+        int left = loft.join(0, 1, 0, 0, 1);
+        int stuck = loft.filter(left, 2, 0, -99);
+        due.is("the least filter of the second node, LEFT", stuck, () -> loft.rewrite(stuck));
+    }
+
     private static void testBags(Due due) {
         QueryLoft loft = twoTables();
         int all = loft.filter(loft.bag(0, 1, 0), 0, 0, 2);
@@ -194,6 +212,7 @@ public final class RewriteTest {
     public static void main(String[] args) {
         Due due = new Due("RewriteTest");
         testJoins(due);
+        testEdges(due);
         testBags(due);
         testFilters(due);
         testStuckFilters(due);
