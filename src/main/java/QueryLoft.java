@@ -822,6 +822,19 @@ public final class QueryLoft {
             return at >= 0 && at < values.length ? values[at] : UNKNOWN;
         }
 
+        /** The first row of a node with a value in a column, perhaps the unknown one, or NONE. */
+        private int findRow(int node, int column, int value) {
+            int count = countOf(node);
+            int at = node * NODE_CELLS + column;
+            for (int row = 0; row < count && at >= 0 && at < values.length; row++) {
+                if (values[at] == value) {
+                    return row;
+                }
+                at += MOST_COLUMNS;
+            }
+            return NONE;
+        }
+
         /** Whether two nodes that are up to date give the same rows, each as often. */
         boolean haveSameRows(int node, int other) {
             if (plan.widthOf(node) != plan.widthOf(other) || countOf(node) != countOf(other)) {
@@ -941,7 +954,7 @@ public final class QueryLoft {
             int count = value == UNKNOWN ? 0 : countOf(second);
             boolean met = false;
             for (int other = 0; other < count; other++) {
-                if (areEqual(value, valueAt(second, other, secondColumn))) {
+                if (valueAt(second, other, secondColumn) == value) {
                     met = true;
                     if (!copyPair(node, row, other)) {
                         return false;
@@ -963,36 +976,23 @@ public final class QueryLoft {
 
         /** Whether a row of the first node with this value stays in a SEMI, an ANTI or a NOT IN. */
         private boolean stays(int node, int value) {
-            int kind = plan.kindOf(node);
-            if (kind == NOT_IN) {
-                return isUnlikeEach(value, plan.secondOf(node), plan.extraOf(node));
+            int second = plan.secondOf(node);
+            int column = plan.extraOf(node);
+            boolean meets = value != UNKNOWN && findRow(second, column, value) != NONE;
+            if (plan.kindOf(node) == SEMI) {
+                return meets;
             }
-            return meetsSome(value, plan.secondOf(node), plan.extraOf(node)) == (kind == SEMI);
-        }
-
-        private boolean meetsSome(int value, int node, int column) {
-            for (int row = 0; row < countOf(node); row++) {
-                if (areEqual(value, valueAt(node, row, column))) {
-                    return true;
-                }
+            if (plan.kindOf(node) == NOT_IN && countOf(second) > 0) {
+                return !meets && value != UNKNOWN && findRow(second, column, UNKNOWN) == NONE;
             }
-            return false;
-        }
-
-        private boolean isUnlikeEach(int value, int node, int column) {
-            for (int row = 0; row < countOf(node); row++) {
-                if (!isTrue(UNLIKE, value, valueAt(node, row, column))) {
-                    return false;
-                }
-            }
-            return true;
+            return !meets;
         }
 
         private boolean fillGroup(int node) {
             int first = plan.firstOf(node);
             for (int row = 0; row < countOf(first); row++) {
                 int value = valueAt(first, row, plan.columnOf(node));
-                if (!hasGroup(node, value)) {
+                if (findRow(node, 0, value) == NONE) {
                     int made = newRow(node);
                     put(node, made, 0, value);
                     put(node, made, 1, summary(node, value));
@@ -1001,29 +1001,23 @@ public final class QueryLoft {
             return true;
         }
 
-        private boolean hasGroup(int node, int value) {
-            for (int row = 0; row < countOf(node); row++) {
-                if (valueAt(node, row, 0) == value) {
-                    return true;
-                }
-            }
-            return false;
-        }
-
         /** What a group tells of the rows with a value. */
         private int summary(int node, int value) {
             int first = plan.firstOf(node);
             int kind = plan.kindOf(node);
+            int by = plan.columnOf(node);
+            int column = plan.extraOf(node);
+            int count = countOf(first);
             int known = 0;
             int sum = 0;
             int all = 0;
             int best = UNKNOWN;
-            for (int row = 0; row < countOf(first); row++) {
-                if (valueAt(first, row, plan.columnOf(node)) != value) {
+            for (int row = 0; row < count; row++) {
+                if (valueAt(first, row, by) != value) {
                     continue;
                 }
                 all++;
-                int told = valueAt(first, row, plan.extraOf(node));
+                int told = valueAt(first, row, column);
                 if (told == UNKNOWN) {
                     continue;
                 }
@@ -1079,7 +1073,8 @@ public final class QueryLoft {
         }
 
         private boolean hasRowOf(int node, int from, int row) {
-            for (int there = 0; there < countOf(node); there++) {
+            int count = countOf(node);
+            for (int there = 0; there < count; there++) {
                 if (areAlike(node, there, from, row)) {
                     return true;
                 }
@@ -1111,7 +1106,8 @@ public final class QueryLoft {
 
         /** Takes away the first row of a node that is there still and the same as one of another node. */
         private boolean takeAway(int node, int other, int row) {
-            for (int there = 0; there < countOf(node) && there < MOST_ROWS; there++) {
+            int count = countOf(node);
+            for (int there = 0; there < count && there < MOST_ROWS; there++) {
                 if (!gone[there] && areAlike(node, there, other, row)) {
                     gone[there] = true;
                     return true;
@@ -1120,11 +1116,17 @@ public final class QueryLoft {
             return false;
         }
 
+        /** Whether two rows are the same, unknown values being the same here. */
         private boolean areAlike(int node, int row, int other, int otherRow) {
-            for (int column = 0; column < plan.widthOf(node); column++) {
-                if (valueAt(node, row, column) != valueAt(other, otherRow, column)) {
+            int at = node * NODE_CELLS + row * MOST_COLUMNS;
+            int otherAt = other * NODE_CELLS + otherRow * MOST_COLUMNS;
+            int end = at + plan.widthOf(node);
+            while (at < end && at >= 0 && at < values.length && otherAt >= 0 && otherAt < values.length) {
+                if (values[at] != values[otherAt]) {
                     return false;
                 }
+                at++;
+                otherAt++;
             }
             return true;
         }
