@@ -1,3 +1,6 @@
+import java.util.ArrayList;
+import java.util.List;
+
 /** Counts the calls whose answer is not the one that is due. */
 final class Due {
     interface Call {
@@ -8,12 +11,55 @@ final class Due {
     static final Class<? extends RuntimeException> ARGUMENT = IllegalArgumentException.class;
     static final Class<? extends RuntimeException> STATE = IllegalStateException.class;
 
+    /** The sentences of the document that were named, as pairs of a heading and a sentence. */
+    final List<String[]> sentences = new ArrayList<>();
+
     private final String test;
+    private String sentence = "";
     private int calls;
+    private int callsBefore = -1;
     private int wrong;
 
     Due(String test) {
         this.test = test;
+    }
+
+    /** The calls from here on test these sentences of the document, which stand under this heading. */
+    void sentence(String heading, String... told) {
+        checkCalls();
+        sentence = "";
+        callsBefore = calls;
+        also(heading, told);
+    }
+
+    /** They test these, too, which stand under another heading. */
+    void also(String heading, String... told) {
+        sentence += heading + ", \"" + told[0] + "\": ";
+        for (String one : told) {
+            sentences.add(new String[] {heading, one});
+        }
+    }
+
+    /** A sentence that is named without a call behind it would not be tested. */
+    private void checkCalls() {
+        if (callsBefore == calls) {
+            tell("no call", "tests this");
+        }
+    }
+
+    /** No sentence is tested from here on. */
+    void endSentences() {
+        checkCalls();
+        sentence = "";
+        callsBefore = -1;
+    }
+
+    /** The answer of a call that has been made is to be this. */
+    void isAnswer(String call, String want, String got) {
+        calls++;
+        if (!got.equals(want)) {
+            tell(call, "answered " + got + ", due is " + want);
+        }
     }
 
     /** The call is to answer this. */
@@ -44,7 +90,7 @@ final class Due {
     void tell(String call, String what) {
         wrong++;
         if (wrong <= 20) {
-            System.out.println(test + ": " + call + " " + what);
+            System.out.println(test + ": " + sentence + call + " " + what);
         }
     }
 

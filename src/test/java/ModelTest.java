@@ -149,76 +149,12 @@ public final class ModelTest {
         return call;
     }
 
-    private long askModel(int call, int[] a) {
-        switch (call) {
-            case 0: return model.table(a[0]);
-            case 1: return model.add(a[0], a[1], a[2], a[3]);
-            case 2: return model.take(a[0], a[1]);
-            case 3: return model.scan(a[0]);
-            case 4: return model.filter(a[0], a[1], a[2], a[3]);
-            case 5: return model.join(a[0], a[1], a[2], a[3], a[4]);
-            case 6: return model.group(a[0], a[1], a[2], a[3]);
-            case 7: return model.bag(a[0], a[1], a[2]);
-            case 8: return model.rows(a[0]);
-            case 9: return model.cell(a[0], a[1], a[2]);
-            case 10: return model.same(a[0], a[1]) ? 1 : 0;
-            case 11: return model.steps(a[0]);
-            case 12: return model.budget(a[0]);
-            case 13: return model.rewrite(a[0]);
-            case 14: return model.node(a[0], a[1]);
-            case 15: return model.link(a[0], a[1], a[2], a[3]);
-            case 16: return model.estimate(a[0]);
-            case 17: return model.cost(a[0]);
-            case 18: return model.split(a[0]);
-            case 19: return model.view(a[0], a[1], a[2], a[3]);
-            case 20: return model.different(a[0]);
-            case 21: return model.often(a[0], a[1], a[2]);
-            default: return model.ways(a[0]);
-        }
-    }
-
-    private long askLoft(int call, int[] a) {
-        switch (call) {
-            case 0: return loft.table(a[0]);
-            case 1: return loft.add(a[0], a[1], a[2], a[3]);
-            case 2: return loft.take(a[0], a[1]);
-            case 3: return loft.scan(a[0]);
-            case 4: return loft.filter(a[0], a[1], a[2], a[3]);
-            case 5: return loft.join(a[0], a[1], a[2], a[3], a[4]);
-            case 6: return loft.group(a[0], a[1], a[2], a[3]);
-            case 7: return loft.bag(a[0], a[1], a[2]);
-            case 8: return loft.rows(a[0]);
-            case 9: return loft.cell(a[0], a[1], a[2]);
-            case 10: return loft.same(a[0], a[1]) ? 1 : 0;
-            case 11: return loft.steps(a[0]);
-            case 12: return loft.budget(a[0]);
-            case 13: return loft.rewrite(a[0]);
-            case 14: return loft.node(a[0], a[1]);
-            case 15: return loft.link(a[0], a[1], a[2], a[3]);
-            case 16: return loft.estimate(a[0]);
-            case 17: return loft.cost(a[0]);
-            case 18: return loft.split(a[0]);
-            case 19: return loft.view(a[0], a[1], a[2], a[3]);
-            case 20: return loft.different(a[0]);
-            case 21: return loft.often(a[0], a[1], a[2]);
-            default: return loft.ways(a[0]);
-        }
-    }
-
-    private String answer(boolean ofModel, int call, int[] arguments) {
-        try {
-            return "" + (ofModel ? askModel(call, arguments) : askLoft(call, arguments));
-        } catch (RuntimeException thrown) {
-            return thrown.getClass().getName();
-        }
-    }
-
     /** Makes a call of both; false if the program's answer is wrong. */
     private boolean isRight(int call, int... arguments) {
-        String want = answer(true, call, arguments);
-        String got = answer(false, call, arguments);
+        String want = Calls.answer(model, NAMES[call], arguments);
+        String got = Calls.answer(loft, NAMES[call], arguments);
         told.add(NAMES[call] + Arrays.toString(arguments) + " = " + got);
-        (want.startsWith("java") ? THROWN : ANSWERED)[call]++;
+        (Calls.isRefusal(want) ? THROWN : ANSWERED)[call]++;
         if (!want.equals(got)) {
             told.add("but due is " + want);
         }
@@ -267,9 +203,9 @@ public final class ModelTest {
     }
 
     private boolean areCellsRight(int node) {
-        String rows = answer(true, 8, new int[] {node});
+        String rows = Calls.answer(model, "rows", node);
         boolean right = true;
-        for (int row = 0; !rows.startsWith("java") && row < Integer.parseInt(rows) && right; row++) {
+        for (int row = 0; !Calls.isRefusal(rows) && row < Integer.parseInt(rows) && right; row++) {
             for (int column = 0; column < model.columns(node) && right; column++) {
                 right = isRight(9, node, row, column);
             }
