@@ -147,10 +147,11 @@ final class EdgesOfAnswers {
         Run run = new Run(due);
         run.table(0, 3, "1 7 11|2 7 12|3 7 13|4 7 14|5 7 15|6 7 16|7 7 17|8 7 18|9 7 19|10 7 20");
         run.table(1, 2, "50 60");
+        run.table(2, 2, "70 80");
         run.counts(0, "scan(0)", "filter(0, 1, 5, 0)", "bag(0, 0, 0)", "scan(1)", "join(2, 0, 1, 1, 0)",
-            "filter(3, 0, 5, 0)", "filter(4, 1, 0, 7)", "filter(3, 1, 5, 0)");
+            "filter(3, 0, 5, 0)", "filter(4, 1, 0, 7)", "scan(2)");
         run.gives("50 60", 5);
-        run.gives("50 60", 7);
+        run.gives("70 80", 7);
         run.is(200, "rows(4)");
         run.is(200, "rows(6)");
         int[] last = {10, 7, 20, 10, 7, 20};
@@ -159,7 +160,7 @@ final class EdgesOfAnswers {
             run.is(last[column], Calls.tell("cell", 6, 199, column));
         }
         run.gives("50 60", 5);
-        run.gives("50 60", 7);
+        run.gives("70 80", 7);
         run.is(1, "same(4, 6)");
         run.refuses(Due.BOUNDS, "cell(4, 200, 0)", "cell(4, 199, 6)", "cell(6, 200, 5)");
     }

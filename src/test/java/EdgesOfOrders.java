@@ -13,11 +13,13 @@ final class EdgesOfOrders {
         testSets(due);
         testLeastEstimates(due);
         testGreatestEstimates(due);
+        testEachLinkDivides(due);
         testDivisors(due);
         testLinksInTheSetAlone(due);
         testCostOfATableAlone(due);
         testPlansOfNothing(due);
         testPlansOfFullTables(due);
+        testEachSetFirst(due);
         testGreatTableLast(due);
         testSplitOfALink(due);
     }
@@ -119,6 +121,28 @@ final class EdgesOfOrders {
         }
     }
 
+    /** Six links of two values each, between all columns that there are: 10000 is halved six times. */
+    private static void testEachLinkDivides(Due due) {
+        due.sentence("Orders of joins", "for each link between two of them, one by one in their order,");
+        Run run = new Run(due);
+        for (int table = 0; table < 4; table++) {
+            run.table(table, 3, "1 3 7|1 4 7|1 4 7|1 4 7|1 4 7|1 4 7|1 4 7|1 4 7|1 4 7|1 4 7");
+        }
+        String[] links = {"link(0, 1, 1, 0)", "link(0, 0, 2, 1)", "link(3, 1, 0, 2)", "link(1, 1, 2, 1)",
+            "link(1, 2, 3, 1)", "link(2, 1, 3, 0)"};
+        int[] wants = {5000, 2500, 1250, 625, 312, 156};
+        run.is(10000, "estimate(15)");
+        for (int link = 0; link < links.length; link++) {
+            run.is(link + 1, links[link]);
+            run.is(wants[link], "estimate(15)");
+        }
+        run.is(125, "estimate(7)");
+        run.is(50, "estimate(12)");
+        run.is(50, "estimate(3)");
+        run.is(9, "take(3, 0)");
+        run.is(562, "estimate(15)");
+    }
+
     /** Four tables with ten rows each, which are all unlike. */
     private static Run runOfFullTables(Due due) {
         Run run = new Run(due);
@@ -208,6 +232,21 @@ final class EdgesOfOrders {
         for (int set = 1; set < 16; set++) {
             run.is(costs[Integer.bitCount(set) - 1], Calls.tell("cost", set));
             run.is(set == 15 ? 3 : Integer.lowestOneBit(set), Calls.tell("split", set));
+        }
+    }
+
+    /** Each set of tables as the first that a new object is asked for, with a link between 0 and 2. */
+    private static void testEachSetFirst(Due due) {
+        due.sentence("Promise 19", "Returns what the best plan for a set of tables costs.");
+        int[] costs = {0, 0, 100, 0, 10, 100, 110, 0, 100, 100, 1100, 100, 110, 1100, 1110};
+        int[] parts = {1, 2, 1, 4, 1, 2, 5, 8, 1, 2, 1, 4, 5, 2, 5};
+        for (int set = 1; set < 16; set++) {
+            Run cost = runOfFullTables(due);
+            cost.is(1, "link(2, 0, 0, 0)");
+            cost.is(costs[set - 1], Calls.tell("cost", set));
+            Run split = runOfFullTables(due);
+            split.is(1, "link(2, 0, 0, 0)");
+            split.is(parts[set - 1], Calls.tell("split", set));
         }
     }
 

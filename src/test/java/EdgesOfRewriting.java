@@ -8,6 +8,7 @@ final class EdgesOfRewriting {
         testSecondNodeOfInner(due);
         testSecondNodeOfLeft(due);
         testWidestJoin(due);
+        testUnlikeWidths(due);
         testBags(due);
         testBagOfOneNode(due);
         testFiltersChangePlaces(due);
@@ -22,6 +23,7 @@ final class EdgesOfRewriting {
         testWhatIsThereAlready(due);
         testFullWithAllThere(due);
         testLongestChains(due);
+        testChainsAlikeButForTheLast(due);
         testDeepestTrees(due);
         testNoNode(due);
         testRoomAndBudgetDoNotMatter(due);
@@ -115,6 +117,38 @@ final class EdgesOfRewriting {
             run.is(2, "filter(1, " + want[0] + ")");
             becomes(run, 2, 3, want[1], want[2]);
         }
+    }
+
+    /** One column beside three, and three beside one. */
+    private static void testUnlikeWidths(Due due) {
+        due.sentence("Rewriting", "whose column is one of the first node of that,", "a column of the second node");
+        for (int column = 0; column < 4; column++) {
+            Run narrow = runOfUnlikeWidths(due, 1, 3, column, 0);
+            becomes(narrow, 3, 4, column < 1 ? "filter(0, 0, 1, 9)" : Calls.tell("filter", 1, column - 1, 1, 9),
+                column < 1 ? "join(4, 1, 0, 0, 0)" : "join(0, 4, 0, 0, 0)");
+            Run wide = runOfUnlikeWidths(due, 3, 1, column, 0);
+            becomes(wide, 3, 4, column < 3 ? Calls.tell("filter", 0, column, 1, 9) : "filter(1, 0, 1, 9)",
+                column < 3 ? "join(4, 1, 0, 0, 0)" : "join(0, 4, 0, 0, 0)");
+            for (int first = 1; first <= 3; first += 2) {
+                Run left = runOfUnlikeWidths(due, first, 4 - first, column, 1);
+                if (column < first) {
+                    becomes(left, 3, 4, Calls.tell("filter", 0, column, 1, 9), "join(4, 1, 0, 0, 1)");
+                } else {
+                    stays(left, 3, 4);
+                }
+            }
+        }
+    }
+
+    /** Two scans, a join (2) and a filter of that (3). */
+    private static Run runOfUnlikeWidths(Due due, int first, int second, int column, int kind) {
+        Run run = new Run(due);
+        run.is(0, Calls.tell("table", first));
+        run.is(1, Calls.tell("table", second));
+        run.is(1, Calls.tell("add", 0, 1, 0, 0));
+        run.is(1, Calls.tell("add", 1, 1, 0, 0));
+        run.counts(0, "scan(0)", "scan(1)", Calls.tell("join", 0, 1, 0, 0, kind), Calls.tell("filter", 2, column, 1, 9));
+        return run;
     }
 
     private static void testBags(Due due) {
@@ -339,6 +373,24 @@ final class EdgesOfRewriting {
                 run.is(23, "filter(22, 0, 1, 1)");
                 run.refuses(Due.STATE, "filter(23, 0, 1, 0)");
             }
+        }
+    }
+
+    /** Two parts with many filters above one scan, of which the last alone is unlike. */
+    private static void testChainsAlikeButForTheLast(Due due) {
+        due.sentence("Rewriting", "to make a new tree of it, in which first its parts are rewritten,");
+        for (int filters = 0; filters <= 20; filters++) {
+            Run run = new Run(due);
+            run.table(0, 1, "5|2|-");
+            run.is(0, "scan(0)");
+            for (int node = 1; node <= filters; node++) {
+                run.is(node, Calls.tell("filter", node - 1, 0, 1, 50 - node));
+            }
+            run.is(filters + 1, Calls.tell("filter", filters, 0, 0, 5));
+            run.is(filters + 2, Calls.tell("filter", filters, 0, 0, 2));
+            run.is(filters + 3, Calls.tell("bag", filters + 1, filters + 2, 1));
+            stays(run, filters + 3, filters + 4);
+            run.gives("5", filters + 3);
         }
     }
 

@@ -38,6 +38,18 @@ final class Look {
         return look.told.toString();
     }
 
+    /** The first answer that is not the same, or nothing. */
+    static String difference(String want, String got) {
+        String[] wants = want.split("\n");
+        String[] gots = got.split("\n");
+        for (int i = 0; i < wants.length && i < gots.length; i++) {
+            if (!wants[i].equals(gots[i])) {
+                return gots[i] + " (due is " + wants[i] + ")";
+            }
+        }
+        return wants.length == gots.length ? "" : "more or fewer calls";
+    }
+
     private String ask(String name, int... arguments) {
         calls++;
         if (calls > MOST_CALLS) {

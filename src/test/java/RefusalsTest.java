@@ -85,7 +85,8 @@ public final class RefusalsTest {
             due.isAnswer(call + " behind " + state.length + " calls", want, Calls.answer(loft, call));
             if (Calls.isRefusal(want)) {
                 int part = seen % Look.PARTS;
-                due.isAnswer("all calls behind " + call, looks[part], Look.at(loft, part, state.length + 1));
+                String difference = Look.difference(looks[part], Look.at(loft, part, state.length + 1));
+                due.isAnswer("what changed behind " + call, "", difference);
                 seen++;
             } else {
                 model = modelOf(state);

@@ -49,7 +49,8 @@ final class Run {
                 if (looks[part] == null) {
                     looks[part] = look(part, null);
                 }
-                due.isAnswer("all calls behind " + call, looks[part], look(part, call));
+                String difference = Look.difference(looks[part], look(part, call));
+                due.isAnswer("what changed behind " + call, "", difference);
             }
         }
     }
