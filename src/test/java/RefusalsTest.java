@@ -12,7 +12,7 @@ public final class RefusalsTest {
     private static final int MAX = Integer.MAX_VALUE;
     private static final int[] TABLES = {-1, 0, 1, 3, 4};
     private static final int[] NODES = {-1, 0, 3, 9, 24};
-    private static final int[] ALL_NODES = {MIN, -1, 0, 1, 2, 3, 4, 5, 6, 7, 8, 9, 10, 11, 23, 24, MAX};
+    private static final int[] ALL_NODES = {MIN, -1, 0, 1, 2, 3, 4, 5, 6, 7, 8, 9, 10, 11, 22, 23, 24, MAX};
     private static final int[] COLUMNS = {-1, 0, 1, 3};
     private static final int[] WIDE_COLUMNS = {-1, 0, 1, 5, 6};
     private static final int[] KINDS = {-1, 0, 1, 3, 4, 5};
@@ -40,19 +40,24 @@ public final class RefusalsTest {
     private static int seen;
 
     private static List<String[]> states() {
-        List<String> full = new ArrayList<>(Arrays.asList(FULL_TABLES));
-        full.addAll(Arrays.asList(FULL_NODES));
-        for (int node = 7; node < 24; node++) {
-            full.add(Calls.tell("filter", 0, 0, 1, node));
-        }
-        full.add("budget(12)");
         List<String> tooMany = new ArrayList<>(Arrays.asList(TOO_MANY));
         for (int row = 0; row < 10; row++) {
             tooMany.add(2, "add(0, 1, 0, 0)");
         }
         tooMany.add(2, "add(1, 2, 0, 0)");
         return Arrays.asList(new String[] {}, new String[] {"table(1)", "scan(0)", "rows(0)"}, SMALL,
-            FULL_TABLES, full.toArray(new String[0]), tooMany.toArray(new String[0]));
+            FULL_TABLES, full(22), full(23), tooMany.toArray(new String[0]));
+    }
+
+    /** Everything full, with nodes up to this one; behind the 22nd there is room for one of two to be rewritten. */
+    private static String[] full(int last) {
+        List<String> full = new ArrayList<>(Arrays.asList(FULL_TABLES));
+        full.addAll(Arrays.asList(FULL_NODES));
+        for (int node = 7; node <= last; node++) {
+            full.add(Calls.tell("filter", 0, 0, 1, node));
+        }
+        full.add("budget(12)");
+        return full.toArray(new String[0]);
     }
 
     private static Model modelOf(String[] state) {
