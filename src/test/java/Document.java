@@ -10,9 +10,9 @@ import java.util.Map;
 
 /** The document's sentences, under their headings, and which of them have been named. */
 final class Document {
-    /** Headings under which nothing is asked of a call. */
-    private static final List<String> WITHOUT_CALLS = Arrays.asList("QueryLoft", "The public face", "Not promised");
-    private static final String INTRODUCTION = "A small query engine: tables with unknown values";
+    /** FaceTest reads the face; what is not promised is free. */
+    private static final List<String> WITHOUT_CALLS = Arrays.asList("The public face", "Not promised");
+    /** FaceTest reads these lines, too. */
     private static final String NAMES_OF_PARTS = "Ahead of the calls";
 
     private final Map<String, String> texts = new LinkedHashMap<>();
@@ -24,7 +24,7 @@ final class Document {
             if (line.startsWith("#")) {
                 heading = line.replaceFirst("^#+ ", "").replaceFirst("^(Promise \\d+):.*", "$1");
                 texts.put(heading, "");
-            } else if (!isOfNoCall(line)) {
+            } else if (!line.startsWith(NAMES_OF_PARTS)) {
                 String text = line.trim().replaceFirst("^- ", "").replaceFirst("^`[a-z]* ?[A-Za-z]+\\(.*?`: ", "");
                 texts.merge(heading, text, (before, more) -> (before + " " + more).trim());
             }
@@ -32,10 +32,6 @@ final class Document {
         for (Map.Entry<String, String> entry : texts.entrySet()) {
             named.put(entry.getKey(), new boolean[entry.getValue().length()]);
         }
-    }
-
-    private static boolean isOfNoCall(String line) {
-        return line.startsWith(INTRODUCTION) || line.startsWith(NAMES_OF_PARTS);
     }
 
     /** Marks a sentence as named; false if it does not stand there. */

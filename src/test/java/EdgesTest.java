@@ -21,6 +21,7 @@ public final class EdgesTest {
 
     public static void main(String[] args) throws IOException {
         Due due = new Due("EdgesTest");
+        EdgesOfTheWhole.testAll(due);
         EdgesOfTables.testAll(due);
         EdgesOfQueries.testAll(due);
         EdgesOfAnswers.testAll(due);

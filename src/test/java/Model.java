@@ -22,23 +22,13 @@ final class Model {
         final Tree first;
         final Tree second;
         final int columns;
-        final double size;
 
-        Tree(int type, int[] numbers, Tree first, Tree second, int columns) {
+        private Tree(int type, int[] numbers, Tree first, Tree second, int columns) {
             this.type = type;
             this.numbers = numbers;
             this.first = first;
             this.second = second;
             this.columns = columns;
-            size = 1 + (first == null ? 0 : first.size) + (second == null ? 0 : second.size);
-        }
-
-        Tree of(Tree newFirst, Tree newSecond) {
-            return new Tree(type, numbers, newFirst, newSecond, columns);
-        }
-
-        static Tree filter(Tree part, int[] numbers) {
-            return new Tree(1, numbers, part, null, part.columns);
         }
     }
 
@@ -58,6 +48,8 @@ final class Model {
     private final List<Integer> widths = new ArrayList<>();
     private final List<List<List<Integer>>> tables = new ArrayList<>();
     private final List<Node> nodes = new ArrayList<>();
+    private final Map<List<Object>, Tree> trees = new HashMap<>();
+    private final Map<Tree, Tree> finished = new HashMap<>();
     private final List<int[]> links = new ArrayList<>();
     private final List<int[]> views = new ArrayList<>();
     private final List<Map<List<Integer>, Integer>> contents = new ArrayList<>();
@@ -179,6 +171,20 @@ final class Model {
         return both;
     }
 
+    /** The same tree is the same object, so that one with the same part many times stays small. */
+    private Tree tree(int type, int[] numbers, Tree first, Tree second, int columns) {
+        List<Object> key = Arrays.asList(type, Arrays.toString(numbers), first, second);
+        return trees.computeIfAbsent(key, told -> new Tree(type, numbers, first, second, columns));
+    }
+
+    private Tree withParts(Tree tree, Tree first, Tree second) {
+        return tree(tree.type, tree.numbers, first, second, tree.columns);
+    }
+
+    private Tree filterOf(Tree part, int... numbers) {
+        return tree(1, numbers, part, null, part.columns);
+    }
+
     private int find(int type, int[] numbers, int first, int second) {
         for (int node = 0; node < nodes.size(); node++) {
             Node there = nodes.get(node);
@@ -198,7 +204,7 @@ final class Model {
         state(nodes.size() < 24);
         Tree firstTree = first < 0 ? null : nodes.get(first).tree;
         Tree secondTree = second < 0 ? null : nodes.get(second).tree;
-        nodes.add(new Node(new Tree(type, numbers, firstTree, secondTree, columns), first, second));
+        nodes.add(new Node(tree(type, numbers, firstTree, secondTree, columns), first, second));
         return nodes.size() - 1;
     }
 
@@ -435,17 +441,12 @@ final class Model {
         return before;
     }
 
-    /** Whether the tree of a node is small enough to be rewritten step by step. */
-    boolean canRewrite(int node) {
-        return !hasNode(node) || nodes.get(node).tree.size <= 600;
-    }
-
     int rewrite(int node) {
         bounds(hasNode(node));
-        Tree finished = rewritten(nodes.get(node).tree);
+        Tree wanted = rewritten(nodes.get(node).tree);
         int before = nodes.size();
         try {
-            return place(finished);
+            return place(wanted, new HashMap<>());
         } catch (IllegalStateException e) {
             while (nodes.size() > before) {
                 nodes.remove(nodes.size() - 1);
@@ -454,40 +455,50 @@ final class Model {
         }
     }
 
-    private int place(Tree tree) {
-        int first = tree.first == null ? -1 : place(tree.first);
-        int second = tree.second == null ? -1 : place(tree.second);
-        return make(tree.type, tree.numbers, first, second, tree.columns);
+    private int place(Tree tree, Map<Tree, Integer> placed) {
+        if (tree == null) {
+            return -1;
+        }
+        if (!placed.containsKey(tree)) {
+            int first = place(tree.first, placed);
+            int second = place(tree.second, placed);
+            placed.put(tree, make(tree.type, tree.numbers, first, second, tree.columns));
+        }
+        return placed.get(tree);
     }
 
-    private static Tree rewritten(Tree tree) {
-        if (tree.type == 0) {
+    private Tree rewritten(Tree tree) {
+        if (tree == null || tree.type == 0) {
             return tree;
         }
-        Tree top = tree.of(rewritten(tree.first), tree.second == null ? null : rewritten(tree.second));
-        Tree moved = moved(top);
-        return moved == null ? top : rewritten(moved);
+        if (!finished.containsKey(tree)) {
+            Tree top = withParts(tree, rewritten(tree.first), rewritten(tree.second));
+            Tree moved = moved(top);
+            finished.put(tree, moved == null ? top : rewritten(moved));
+        }
+        return finished.get(tree);
     }
 
     /** What comes of moving the filter at the top down, or null if that can't be done. */
-    private static Tree moved(Tree top) {
+    private Tree moved(Tree top) {
         if (top.type != 1) {
             return null;
         }
         Tree below = top.first;
         int column = top.numbers[0];
         if (below.type == 1) {
-            return isGreater(top.numbers, below.numbers) ? below.of(top.of(below.first, null), null) : null;
+            return isGreater(top.numbers, below.numbers)
+                ? withParts(below, withParts(top, below.first, null), null) : null;
         }
         if (below.type == 4 && below.numbers[0] == 0) {
-            return below.of(Tree.filter(below.first, top.numbers), Tree.filter(below.second, top.numbers));
+            return withParts(below, filterOf(below.first, top.numbers), filterOf(below.second, top.numbers));
         }
         if (below.type == 2 && column < below.first.columns) {
-            return below.of(Tree.filter(below.first, top.numbers), below.second);
+            return withParts(below, filterOf(below.first, top.numbers), below.second);
         }
         if (below.type == 2 && below.numbers[0] == 0) {
             int[] numbers = {column - below.first.columns, top.numbers[1], top.numbers[2]};
-            return below.of(below.first, Tree.filter(below.second, numbers));
+            return withParts(below, below.first, filterOf(below.second, numbers));
         }
         return null;
     }

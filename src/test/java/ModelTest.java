@@ -167,33 +167,35 @@ public final class ModelTest {
         for (int i = 0; i < CALLS && right; i++) {
             int call = i < 12 ? i % 3 == 0 ? 0 : 1 : someCall();
             int[] arguments = arguments(call);
-            boolean isTooBig = call == 13 && !model.canRewrite(arguments[0]);
-            right = isTooBig ? isRight(14, arguments[0], 0) : isRight(call, arguments);
+            right = isRight(call, arguments);
         }
         return right;
     }
 
-    /** A run that makes some nodes, rewrites the last one and asks for all that all nodes give. */
-    private boolean runRewriting() {
+    /**
+     * A run that makes some nodes, rewrites the last one and asks for all that all nodes give. In a deep one
+     * the second part is a late node, too, so that the same part stands in the tree many times.
+     */
+    private boolean runRewriting(boolean isDeep) {
         boolean right = isRight(0, 1 + below(2)) && isRight(0, 1 + below(2)) && isRight(3, 0) && isRight(3, 1);
         for (int row = 0; row < 6 && right; row++) {
             right = isRight(1, arguments(1)) && isRight(1, arguments(1));
         }
-        int nodes = 3 + below(10);
-        for (int i = 0; i < 20 && model.nodeCount() < nodes && right; i++) {
-            int node = Math.max(0, model.nodeCount() - 1 - below(3));
+        int nodes = isDeep ? 8 + below(12) : 3 + below(10);
+        for (int i = 0; i < 40 && model.nodeCount() < nodes && right; i++) {
+            int node = Math.max(0, model.nodeCount() - 1 - below(isDeep ? 2 : 3));
+            int other = isDeep ? Math.max(0, model.nodeCount() - 1 - below(3)) : below(model.nodeCount());
             int kind = below(10);
-            if (kind < 5) {
+            if (kind < (isDeep ? 2 : 5)) {
                 right = isRight(4, node, columnOf(node), below(4), below(3) - 1);
-            } else if (kind < 8) {
-                int other = below(model.nodeCount());
+            } else if (kind < 8 && !isDeep || kind < 4) {
                 right = isRight(5, node, other, columnOf(node), columnOf(other), below(3) == 0 ? below(5) : below(2));
             } else {
-                right = isRight(7, node, below(model.nodeCount()), 0);
+                right = isRight(7, node, other, isDeep && below(8) == 0 ? 1 + below(3) : 0);
             }
         }
         int before = model.nodeCount();
-        right = right && (!model.canRewrite(before - 1) || isRight(13, before - 1));
+        right = right && isRight(13, before - 1);
         REWRITTEN[0] += model.nodeCount() > before ? 1 : 0;
         for (int node = 0; node < model.nodeCount() && right; node++) {
             right = isRight(14, node, 0) && isRight(14, node, 1) && isRight(14, node, 2) && isRight(14, node, 3)
@@ -216,7 +218,7 @@ public final class ModelTest {
     private static void runAll(int runs) {
         for (int run = 0; run < runs; run++) {
             ModelTest test = new ModelTest(run);
-            if (run % 4 == 0 ? !test.runCalls() : !test.runRewriting()) {
+            if (run % 4 == 0 ? !test.runCalls() : !test.runRewriting(run % 4 == 3)) {
                 System.out.println("ModelTest: run " + run);
                 for (String line : test.told) {
                     System.out.println("  " + line);

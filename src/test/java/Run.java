@@ -55,11 +55,16 @@ final class Run {
         }
     }
 
-    private String look(int part, String refused) {
-        QueryLoft other = new QueryLoft();
+    /** Makes the calls that answered of another object, too. */
+    void repeat(QueryLoft other) {
         for (String call : answered) {
             Calls.answer(other, call);
         }
+    }
+
+    private String look(int part, String refused) {
+        QueryLoft other = new QueryLoft();
+        repeat(other);
         if (refused != null) {
             Calls.answer(other, refused);
         }
