@@ -45,11 +45,12 @@ public final class ReadmeTest {
         }
     }
 
-    /** Runs a command of the shell and answers all that it tells, behind its exit code. */
+    /** Runs a command of the shell and answers its exit code and, behind that, what it prints. */
     private String outputOf(String command) throws IOException, InterruptedException {
         ProcessBuilder builder = new ProcessBuilder("sh", "-e", "-c", command);
         builder.environment().put("TMPDIR", work.toString());
-        Process process = builder.redirectErrorStream(true).start();
+        // What the machine itself tells, such as the options that it picks up, is no answer.
+        Process process = builder.redirectError(ProcessBuilder.Redirect.INHERIT).start();
         ByteArrayOutputStream told = new ByteArrayOutputStream();
         try (InputStream output = process.getInputStream()) {
             output.transferTo(told);
